@@ -17,8 +17,8 @@ public final class OpcodeAtlas {
     private static final int PLAIN = 0;
     private static final int RELATIVE = 2;
     private static final int NONE = -1;
-    // No value needs more than seven digits: 65535 * 8 + 100 is the greatest.
-    private static final int HIGHEST_UNIT = 1000000;
+    // No value has more than six digits: 65535 * 8 + 100 is the one farthest from 0.
+    private static final int HIGHEST_UNIT = 100000;
 
     private final Text typed;
     private final Text output;
@@ -294,7 +294,8 @@ public final class OpcodeAtlas {
     }
 
     private boolean readLine(Line row) {
-        row.clear();
+        row.name = 0;
+        row.operandCount = 0;
         row.label = typed.takeLabel();
         if (row.label != NONE) {
             if (!typed.take(':')) {
@@ -519,7 +520,7 @@ public final class OpcodeAtlas {
         }
     }
 
-    /** One form; sign k is bit 23 - k of its masks, whatever number of bytes it has, so that forms compare bit by bit. */
+    /** One form; sign k is bit 23 - k of its masks, however many bytes it has, so that forms compare bit by bit. */
     private static final class Form {
         final Operand[] operands = new Operand[OPERAND_LIMIT];
         int name;
@@ -541,7 +542,7 @@ public final class OpcodeAtlas {
             fixedBits = 0;
             operandCount = 0;
             for (int i = 0; i < operands.length; i++) {
-                operands[i].reset();
+                operands[i].mask = 0;
             }
         }
 
@@ -593,16 +594,9 @@ public final class OpcodeAtlas {
     /** An operand of a form: the bits that are its field, and how a field becomes a value. */
     private static final class Operand {
         int mask;
-        int kind;
+        int kind = PLAIN;
         int scale = 1;
         int offset;
-
-        void reset() {
-            mask = 0;
-            kind = PLAIN;
-            scale = 1;
-            offset = 0;
-        }
 
         int width() {
             return Integer.bitCount(mask);
@@ -665,13 +659,5 @@ public final class OpcodeAtlas {
         int operandCount;
         int address;
         Form form;
-
-        void clear() {
-            label = NONE;
-            name = 0;
-            operandCount = 0;
-            address = 0;
-            form = null;
-        }
     }
 }

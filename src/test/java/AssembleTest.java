@@ -11,6 +11,7 @@ public final class AssembleTest {
         edgesOfMemory();
         orderOfRefusals();
         unknownNames();
+        refusedLineLeavesNothing();
         faultStays();
         everyFieldComesBack();
         Check.finish();
@@ -171,6 +172,26 @@ public final class AssembleTest {
         atlas.test();
         Check.due("assemble() once c has a form", atlas.assemble(0), 3);
         Check.bytes("c", atlas, 0, 0xe0, 0xc2, 0xe0);
+    }
+
+    private static void refusedLineLeavesNothing() {
+        OpcodeAtlas atlas = Check.ready("a 1111xxxx");
+        Check.program(atlas, "A:a 1");
+        for (String text : new String[] {"A:a 2", "A:b", "A:a B", "A:a 99", "a 2,"}) {
+            Check.refused("line() of " + text, IllegalArgumentException.class, () -> Check.line(atlas, text));
+            Check.due("assemble() without " + text, atlas.assemble(0), 1);
+            Check.bytes("without " + text, atlas, 0, 0xf1, 0);
+        }
+        Check.refused("line() of a 2,?", IllegalArgumentException.class, () -> Check.line(atlas, "a 2,?"));
+        Check.line(atlas, "B:");
+        Check.due("assemble() with B:", atlas.assemble(0), 1);
+        Check.program(atlas, "a E");
+        Check.refused("no E in line 0", NoSuchElementException.class, () -> atlas.assemble(0));
+        Check.due("fault() of line 0", atlas.fault(), 0);
+        Check.program(atlas, "E:a 3");
+        atlas.erase();
+        Check.program(atlas, "a E");
+        Check.refused("an erased E", NoSuchElementException.class, () -> atlas.assemble(0));
     }
 
     private static void faultStays() {

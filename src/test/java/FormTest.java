@@ -6,6 +6,7 @@ public final class FormTest {
         sameName();
         twelveForms();
         formMakesUnready();
+        refusedFormLeavesNothing();
         operands();
         wrongOperands();
         Check.finish();
@@ -79,6 +80,24 @@ public final class FormTest {
         Check.form(atlas, "b 11111111");
         Check.due("count(2) after a new form", atlas.count(2), 0);
         Check.refused("decode(0) after a new form", IllegalStateException.class, () -> atlas.decode(0));
+    }
+
+    private static void refusedFormLeavesNothing() {
+        OpcodeAtlas atlas = Check.ready("a 0000000x");
+        Check.refused("a again", IllegalStateException.class, () -> Check.form(atlas, "a 0000000x"));
+        Check.refused("operand() of a refused form", IllegalArgumentException.class, () -> atlas.operand(1, 0, 0, 1, 0));
+        Check.due("test() without the refused form", atlas.test(), 0);
+        Check.due("decode() without the refused form", atlas.decode(0), 0);
+        Check.refused("a wrong last sign", IllegalArgumentException.class, () -> Check.form(atlas, "b 1111111?"));
+        Check.due("b", Check.form(atlas, "b 10xxxxxx"), 1);
+        Check.due("bits of b", atlas.operand(1, 0, 0, 1, 0), 6);
+        Check.due("test() with b", atlas.test(), 0);
+        atlas.poke(0, 0b10000011);
+        Check.due("decode() of b", atlas.decode(0), 1);
+        Check.due("value() of b", atlas.value(0, 0), 3);
+        Check.program(atlas, "b 0");
+        atlas.assemble(0);
+        Check.due("the byte of b", atlas.peek(0), 0b10000000);
     }
 
     private static void operands() {

@@ -27,7 +27,7 @@ public final class ModelTest {
         Model model = new Model();
         StringBuilder log = new StringBuilder();
         String pending = "";
-        int opening = 2 + random.nextInt(11);
+        int opening = 1 + random.nextInt(random.nextBoolean() ? 4 : 12);
         int formsAsked = 0;
         int after = 0;
         for (int i = 0; i < CALLS; i++) {
@@ -112,7 +112,7 @@ public final class ModelTest {
     }
 
     private static int[] randomCall(Random r, Model model) {
-        int address = r.nextInt(12) == 0 ? odd(r) : r.nextInt(64);
+        int address = r.nextInt(12) == 0 ? odd(r) : r.nextInt(r.nextBoolean() ? 6 : 64);
         switch (r.nextInt(16)) {
             case 0: return new int[] {2, odd(r), odd(r), odd(r), odd(r), odd(r)};
             case 1: return new int[] {2, r.nextInt(Math.max(1, model.forms.size())), r.nextInt(2), r.nextInt(3),
@@ -124,7 +124,7 @@ public final class ModelTest {
             case 7: return new int[] {7, address, r.nextInt(6) == 0 ? odd(r) : r.nextInt(3)};
             case 8: return new int[] {8, address};
             case 9: case 10: return new int[] {9, r.nextInt(10) == 0 ? odd(r) : r.nextInt(12)};
-            case 11: return new int[] {r.nextInt(3) == 0 ? 11 : 13};
+            case 11: return new int[] {11};
             case 12: case 13: return new int[] {12, r.nextInt(6) == 0 ? odd(r) : r.nextInt(40)};
             case 14: return new int[] {14, r.nextInt(5) == 0 ? odd(r) : r.nextInt(4)};
             default: return r.nextInt(20) == 0 ? new int[] {1} : new int[] {13};
@@ -154,7 +154,7 @@ public final class ModelTest {
         StringBuilder text = new StringBuilder(randomName(r)).append(' ');
         int bytes = 1 + r.nextInt(3);
         // A code in front keeps most forms apart, so that many atlases become ready.
-        String code = Integer.toBinaryString(16 + r.nextInt(16)).substring(1, 2 + r.nextInt(4));
+        String code = Integer.toBinaryString(64 + r.nextInt(64)).substring(1, r.nextInt(3) == 0 ? 3 : 7);
         text.append(code);
         String letters = r.nextInt(5) == 0 ? "01xyz" : r.nextBoolean() ? "01x" : "xxyyx0";
         for (int k = code.length(); k < 8 * bytes; k++) {
@@ -174,29 +174,28 @@ public final class ModelTest {
 
     private static String randomLine(Random r, Model model) {
         StringBuilder text = new StringBuilder();
-        if (r.nextInt(3) == 0) {
+        if (r.nextInt(2) == 0) {
             text.append((char) ('A' + r.nextInt(6))).append(':');
         }
-        if (text.length() == 0 || r.nextInt(4) != 0) {
-            int operands = r.nextInt(4);
-            if (!model.forms.isEmpty() && r.nextInt(12) != 0) {
-                Form form = model.forms.get(r.nextInt(model.forms.size()));
-                operands = form.operands;
-                text.append(form.name);
-            } else {
-                text.append(randomName(r));
-            }
+        if (text.length() == 0 || r.nextInt(3) != 0) {
+            boolean known = !model.forms.isEmpty() && r.nextInt(25) != 0;
+            Form form = known ? model.forms.get(r.nextInt(model.forms.size())) : null;
+            int operands = known ? form.operands : r.nextInt(4);
+            text.append(known ? form.name : randomName(r));
             for (int i = 0; i < operands; i++) {
-                text.append(i == 0 ? ' ' : ',').append(randomOperand(r));
+                // Most operands are values of some field, so that many programs are put.
+                boolean likely = known && r.nextInt(10) != 0;
+                text.append(i == 0 ? ' ' : ',');
+                text.append(likely ? "" + form.value(i, r.nextInt(1 << form.bits(i)), r.nextInt(16)) : randomOperand(r));
             }
         }
         return spoil(r, text);
     }
 
     private static String randomOperand(Random r) {
-        switch (r.nextInt(8)) {
-            case 0: return "" + (char) ('A' + r.nextInt(6));
-            case 1: return "" + (r.nextInt(200001) - 100000);
+        switch (r.nextInt(6)) {
+            case 0: case 1: return "" + (char) ('A' + r.nextInt(6));
+            case 2: return "" + (r.nextInt(200001) - 100000);
             default: return "" + (r.nextInt(r.nextBoolean() ? 8 : 80) - r.nextInt(10));
         }
     }
