@@ -212,14 +212,14 @@ public final class AssembleTest {
     }
 
     private static void everyFieldComesBack() {
-        OpcodeAtlas atlas = Check.ready("a xyx1yxzz");
-        atlas.operand(0, 0, 1, 5, 7);
-        atlas.operand(0, 1, 2, 3, -2);
-        atlas.operand(0, 2, 0, 1, -100);
         for (int b = 0; b < 256; b++) {
             if ((b & 16) == 0) {
                 continue;
             }
+            OpcodeAtlas atlas = Check.ready("a xyx1yxzz");
+            atlas.operand(0, 0, 1, 5, 7);
+            atlas.operand(0, 1, 2, 3, -2);
+            atlas.operand(0, 2, 0, 1, -100);
             atlas.poke(40, b);
             atlas.write(40);
             Check.program(atlas, Check.writtenText(atlas));

@@ -9,6 +9,29 @@ final class Check {
     private Check() {
     }
 
+    /** A test of one sentence of the document; what it throws by mistake counts as a wrong answer of that sentence. */
+    static void sentence(String words, Runnable test) {
+        int before = wrong;
+        try {
+            test.run();
+        } catch (RuntimeException e) {
+            wrong++;
+            System.out.println("the test threw " + e);
+        }
+        if (wrong != before) {
+            System.out.println("^ this breaks the sentence: " + words);
+        }
+    }
+
+    /** What a call answers, or the name of the class that it throws. */
+    static String answer(Call call) {
+        try {
+            return Long.toString(call.run());
+        } catch (RuntimeException e) {
+            return e.getClass().getName();
+        }
+    }
+
     static void due(String what, long got, long want) {
         if (got != want) {
             wrong++;
@@ -25,13 +48,7 @@ final class Check {
 
     /** The class must be the very one: what the machine throws is often of a class below it. */
     static void refused(String what, Class<? extends RuntimeException> want, Call call) {
-        String got = "nothing";
-        try {
-            call.run();
-        } catch (RuntimeException e) {
-            got = e.getClass().getName();
-        }
-        due(what + " throws", got, want.getName());
+        due(what, answer(call), want.getName());
     }
 
     static void type(OpcodeAtlas atlas, String text) {

@@ -8,9 +8,22 @@ import java.util.TreeSet;
 /** The public face: what the document shows, and nothing else that is not private. */
 public final class FaceTest {
     private static final String[] FACE = {
-        "int type(char)", "int form()", "int operand(int,int,int,int,int)", "int test()", "int poke(int,int)",
-        "int peek(int)", "int decode(int)", "int value(int,int)", "int write(int)", "char written(int)", "int line()",
-        "int erase()", "int assemble(int)", "int fault()", "int count(int)"};
+        "int type(char)",
+        "int form() IllegalArgumentException IllegalStateException",
+        "int operand(int,int,int,int,int) IllegalArgumentException",
+        "int test()",
+        "int poke(int,int) IndexOutOfBoundsException",
+        "int peek(int) IndexOutOfBoundsException",
+        "int decode(int) IllegalStateException IndexOutOfBoundsException",
+        "int value(int,int) IllegalStateException IndexOutOfBoundsException",
+        "int write(int) IllegalStateException IndexOutOfBoundsException",
+        "char written(int)",
+        "int line() IllegalArgumentException IllegalStateException",
+        "int erase()",
+        "int assemble(int) IllegalStateException NoSuchElementException IndexOutOfBoundsException"
+            + " IllegalArgumentException",
+        "int fault()",
+        "int count(int)"};
 
     public static void main(String[] args) {
         TreeSet<String> found = new TreeSet<>();
@@ -31,6 +44,11 @@ public final class FaceTest {
         Check.due("the constructor's parameters", constructors[0].getParameterCount(), 0);
         Check.due("the constructor is public", constructors[0].getModifiers(), Modifier.PUBLIC);
         Check.due("the class", OpcodeAtlas.class.getModifiers(), Modifier.PUBLIC | Modifier.FINAL);
+        for (Class<?> inside : OpcodeAtlas.class.getDeclaredClasses()) {
+            int open = inside.getModifiers() & (Modifier.PUBLIC | Modifier.PROTECTED);
+            Check.due(inside + " is private or package-visible", open, 0);
+            Check.due(inside + " is static", inside.getModifiers() & Modifier.STATIC, Modifier.STATIC);
+        }
         Check.finish();
     }
 
@@ -39,6 +57,10 @@ public final class FaceTest {
         for (Class<?> parameter : method.getParameterTypes()) {
             text.append(text.charAt(text.length() - 1) == '(' ? "" : ",").append(parameter);
         }
-        return text.append(")").toString();
+        text.append(")");
+        for (Class<?> thrown : method.getExceptionTypes()) {
+            text.append(" ").append(thrown.getSimpleName());
+        }
+        return text.toString();
     }
 }

@@ -32,16 +32,14 @@ public final class FormTest {
             "a xz000000", "a yz000000", "a 000 0000", "a xxxxxxxxxxxxxxxxx0000000", "a xyyyyyyyyyyyyyyyyy000000",
             "a xyzzzzzzzzzzzzzzzzz00000", "a 0000000\u0130", "\u0161 00000000", "a\u000000000000", "a 0000000\u0000",
             "a\u012000000000", "abcdabcdabcd 00000000", "a:00000000"};
-        OpcodeAtlas atlas = new OpcodeAtlas();
-        Check.form(atlas, "a 00000000");
-        atlas.test();
         for (String text : texts) {
+            OpcodeAtlas atlas = Check.ready("a 00000000");
             Check.refused("form() of '" + text + "'", IllegalArgumentException.class, () -> Check.form(atlas, text));
             Check.due("count(0) after '" + text + "'", atlas.count(0), 1);
             Check.due("count(2) after '" + text + "'", atlas.count(2), 1);
             Check.due("count(3) after '" + text + "'", atlas.count(3), 0);
+            Check.due("decode() after '" + text + "'", atlas.decode(0), 0);
         }
-        Check.due("decode() after wrong forms", atlas.decode(0), 0);
     }
 
     private static void sameName() {

@@ -51,9 +51,9 @@ public final class WriteTest {
     }
 
     private static void digits() {
-        OpcodeAtlas atlas = Check.ready("a 00000001xxxxxxxxxxxxxxxx");
-        atlas.poke(0, 1);
         for (int number : new int[] {0, 1, 9, 10, 11, 99, 100, 101, 999, 1000, 1010, 9999, 10000, 10203, 65535}) {
+            OpcodeAtlas atlas = Check.ready("a 00000001xxxxxxxxxxxxxxxx");
+            atlas.poke(0, 1);
             atlas.poke(1, number >> 8);
             atlas.poke(2, number);
             atlas.operand(0, 0, 0, 1, 0);
