@@ -34,8 +34,8 @@ public final class OpcodeAtlas {
         typed = new Text();
         output = new Text();
         memory = new int[MEMORY_SIZE];
-        // A text is read into the row behind the last one, so that one that comes too late
-        // can still be told from one that is wrong: hence one row more than the limit.
+        // A text is read into the row behind the limit, so that one that comes too late can still
+        // be told from one that is wrong; a row that is kept changes places with the next free one.
         forms = new Form[FORM_LIMIT + 1];
         for (int i = 0; i < forms.length; i++) {
             forms[i] = new Form();
@@ -52,7 +52,7 @@ public final class OpcodeAtlas {
     }
 
     public int form() throws IllegalArgumentException, IllegalStateException {
-        Form row = forms[formCount];
+        Form row = forms[FORM_LIMIT];
         boolean told = readForm(row);
         typed.clear();
         if (!told) {
@@ -64,6 +64,8 @@ public final class OpcodeAtlas {
         if (findForm(row.name, row.operandCount) != NONE) {
             throw new IllegalStateException("a form has that name and as many operands");
         }
+        forms[FORM_LIMIT] = forms[formCount];
+        forms[formCount] = row;
         formCount++;
         ready = false;
         return formCount - 1;
@@ -154,7 +156,7 @@ public final class OpcodeAtlas {
     }
 
     public int line() throws IllegalArgumentException, IllegalStateException {
-        Line row = lines[lineCount];
+        Line row = lines[LINE_LIMIT];
         boolean told = readLine(row);
         typed.clear();
         if (!told) {
@@ -166,6 +168,8 @@ public final class OpcodeAtlas {
         if (lineCount >= LINE_LIMIT) {
             throw new IllegalStateException("there are twenty lines");
         }
+        lines[LINE_LIMIT] = lines[lineCount];
+        lines[lineCount] = row;
         lineCount++;
         return lineCount;
     }

@@ -260,6 +260,7 @@ public final class FormBoundaryTest {
         Check.refused("a form that is refused", IllegalStateException.class, () -> Check.form(refused, "a 1111111x"));
         Check.refused("its number", IllegalArgumentException.class, () -> refused.operand(1, 0, 0, 1, 0));
         OpcodeAtlas full = withForms(12);
+        Check.refused("a thirteenth form", IllegalStateException.class, () -> Check.form(full, "m 1111111x"));
         Check.due("form 11 of twelve", full.operand(11, 0, 0, 1, 0), 1);
         Check.refused("form 12 of twelve", IllegalArgumentException.class, () -> full.operand(12, 0, 0, 1, 0));
         Check.refused("form 13 of twelve", IllegalArgumentException.class, () -> full.operand(13, 0, 0, 1, 0));
