@@ -91,7 +91,7 @@ public final class OpcodeAtlas {
         told.kind = kind;
         told.scale = scale;
         told.offset = offset;
-        return told.width();
+        return told.width;
     }
 
     public int test() {
@@ -547,6 +547,7 @@ public final class OpcodeAtlas {
             operandCount = 0;
             for (int i = 0; i < operands.length; i++) {
                 operands[i].mask = 0;
+                operands[i].width = 0;
             }
         }
 
@@ -561,12 +562,13 @@ public final class OpcodeAtlas {
                 return false;
             }
             operands[sign - 'x'].mask |= bit;
+            operands[sign - 'x'].width++;
             return true;
         }
 
         boolean countOperands() {
             for (int i = 0; i < operands.length; i++) {
-                int width = operands[i].width();
+                int width = operands[i].width;
                 if (width > FIELD_LIMIT || width > 0 && operandCount < i) {
                     return false;
                 }
@@ -598,24 +600,21 @@ public final class OpcodeAtlas {
     /** An operand of a form: the bits that are its field, and how a field becomes a value. */
     private static final class Operand {
         int mask;
+        int width;
         int kind = PLAIN;
         int scale = 1;
         int offset;
-
-        int width() {
-            return Integer.bitCount(mask);
-        }
 
         int base(int behind) {
             return kind == RELATIVE ? offset + behind : offset;
         }
 
         int lowest() {
-            return kind == PLAIN ? 0 : -(1 << width() >> 1);
+            return kind == PLAIN ? 0 : -(1 << width >> 1);
         }
 
         int highest() {
-            return lowest() + (1 << width()) - 1;
+            return lowest() + (1 << width) - 1;
         }
 
         int valueIn(int word, int behind) {
@@ -626,7 +625,7 @@ public final class OpcodeAtlas {
                 }
             }
             if (number > highest()) {
-                number -= 1 << width();
+                number -= 1 << width;
             }
             return number * scale + base(behind);
         }
